@@ -259,7 +259,7 @@ public final class CharacterSums {
         if (size == NONE || !ground.hasClasses(d) || !ground.hasClasses(e)) {
             throw new IllegalArgumentException("no such s, d or e");
         }
-        return tower.ways(d, e, s, size);
+        return tower.ways(d, e, size);
     }
 
     public int curve(int a, int b) throws NoSuchElementException {
@@ -480,7 +480,7 @@ public final class CharacterSums {
             return x == 0 ? 0 : powers[logs[x] * n % (q - 1)];
         }
 
-        /** NONE of 0. */
+        /** x must not be 0. */
         int logOf(int x) {
             return logs[x];
         }
@@ -594,7 +594,6 @@ public final class CharacterSums {
         }
 
         private void findGenerator() {
-            logs[0] = NONE;
             generator = 0;
             do {
                 generator++;
@@ -631,7 +630,7 @@ public final class CharacterSums {
     /**
      * Whole numbers joined with Z, the n-th root of unity. A sum is gathered in a row of its own,
      * by powers of Z below n / 2 (Z to the n / 2 is -1, for n is even), and then taken as
-     * COEFFICIENTS. Long arithmetic holds it: products of values that aren't GREAT stay below 1e18.
+     * COEFFICIENTS. Long arithmetic holds it: products of values that aren't GREAT stay below 1e16.
      */
     private static final class Ring {
         static final int MOST_D = 220;
@@ -1050,7 +1049,7 @@ public final class CharacterSums {
         }
 
         /** d and e divide q - 1, so also size - 1: what is a d-th power is so in d ways. */
-        int ways(int d, int e, int s, int newSize) {
+        int ways(int d, int e, int newSize) {
             size = newSize;
             if (d == 1 || e == 1) {
                 return size;
@@ -1347,22 +1346,18 @@ public final class CharacterSums {
                 at++;
             }
             start = at;
-            if (at >= length) {
-                token = END;
-            } else if (isFigure(text[at])) {
-                token = NUMBER;
-                takeFigures();
-            } else {
-                token = text[at];
-                at++;
-            }
-        }
-
-        private void takeFigures() {
             number = 0;
             while (at < length && isFigure(text[at])) {
                 number = Math.min(number * 10 + text[at] - '0', TOO_HIGH);
                 at++;
+            }
+            if (at > start) {
+                token = NUMBER;
+            } else if (at < length) {
+                token = text[at];
+                at++;
+            } else {
+                token = END;
             }
         }
 
@@ -1373,8 +1368,8 @@ public final class CharacterSums {
 
     /** Works out a program; the VALUES that wait for their signs lie on a stack. */
     private static final class Worker {
-        // Six brackets open at once leave two VALUES each waiting, and a POWER needs one more.
-        private static final int MOST_WAITING = 18;
+        // Outside and in each of six brackets two VALUES may wait; the last ATOM and its POWER are two more.
+        private static final int MOST_WAITING = 16;
 
         private final Ring ring;
         private final Sums sums;

@@ -1,5 +1,4 @@
 import java.nio.charset.StandardCharsets;
-import java.util.NoSuchElementException;
 
 /** What the tests share: they tell each answer that isn't as due, and end with 1 if there was one. */
 final class Check {

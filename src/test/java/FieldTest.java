@@ -70,12 +70,14 @@ final class FieldTest {
 
     private static void aNewFieldBeginsAnew() {
         CharacterSums sums = Check.over(23, 1);
+        Check.tell(sums, 0, "z218-1");
         Check.tell(sums, 7, "z219*5");
         sums.say(7);
         Check.tell(sums, 1, "1+");
         sums.let(22, 9);
         sums.feed(0x31202020, 0x20202020, 0x20202020, 0x20202020, 0x20202020);
         Check.due("field", () -> sums.field(23, 1), 23);
+        Check.due("place 0", () -> sums.of(0, 0), 0);
         Check.due("place 7", () -> sums.of(7, 0), 0);
         Check.due("F of 22", () -> sums.let(22, 0), 0);
         Check.due("the tape stays", () -> sums.count(7), 20);

@@ -1,7 +1,10 @@
 import java.util.Arrays;
 import java.util.Random;
 
-/** Runs of chance calls (always the same ones), on the class and on the model side by side. */
+/**
+ * Runs of chance calls (always the same ones), on the class and on the model side by side. A number
+ * told to main() makes as many runs.
+ */
 final class ModelTest {
     private static final int[][] FIELDS = {
         {2, 1}, {2, 2}, {2, 3}, {2, 4}, {3, 1}, {3, 2}, {3, 3}, {5, 1}, {5, 2}, {7, 1}, {11, 1}, {13, 1},
@@ -23,7 +26,8 @@ final class ModelTest {
     }
 
     public static void main(String[] args) {
-        for (int seed = 0; seed < RUNS; seed++) {
+        int runs = args.length > 0 ? Integer.parseInt(args[0]) : RUNS;
+        for (int seed = 0; seed < runs; seed++) {
             new ModelTest(seed).goOn();
         }
         Check.finish();
@@ -224,7 +228,7 @@ final class ModelTest {
     }
 
     private void texts() {
-        String text = expression(1 + chance.nextInt(4));
+        String text = chance.nextInt(6) == 0 ? deep(1 + chance.nextInt(7)) : expression(1 + chance.nextInt(4));
         if (text.length() > 200) {
             text = text.substring(0, 200);
         }
@@ -257,6 +261,17 @@ final class ModelTest {
     private String blank() {
         int kind = chance.nextInt(20);
         return kind == 0 ? " " : kind == 1 ? "\n" : "";
+    }
+
+    /** Many openings one in the other, about as many as may be open at once. */
+    private String deep(int openings) {
+        String within = openings == 0 ? expression(chance.nextInt(2)) : deep(openings - 1);
+        String behind = chance.nextInt(4) == 0 ? "*" + chance.nextInt(2000) : "";
+        if (within.indexOf('+') >= 0 || chance.nextInt(2) == 0) {
+            return "(" + within + blank() + ")" + behind;
+        }
+        String[] ahead = {"-", "~", "m" + moving() + "."};
+        return ahead[chance.nextInt(3)] + within + behind;
     }
 
     private String expression(int depth) {

@@ -247,6 +247,8 @@ final class TextTest {
         CharacterSums sums = Check.over(5, 1);
         Check.value(sums, "((((((1))))))", "1");
         Check.faulty(sums, "(((((((1)))))))", 3, 6);
+        Check.value(sums, "1+1*(1+1*(1+1*(1+1*(1+1*(1+1*(1+1*2^2))))))", "11");
+        Check.faulty(sums, "1+1*(1+1*(1+1*(1+1*(1+1*(1+1*(1+1*-2^3))))))", 3, 34);
         Check.value(sums, "------1", "1");
         Check.faulty(sums, "-------1", 3, 6);
         Check.value(sums, "~~~~~~1", "1");

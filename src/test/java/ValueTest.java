@@ -184,6 +184,11 @@ final class ValueTest {
             Check.due("divide(" + place + ", 0, 1)", () -> sums.divide(place, 0, 1), -1);
             Check.due("divide(0, " + place + ", 1)", () -> sums.divide(0, place, 1), -1);
         }
+        Check.tell(sums, 2, "4*z7+4*z1+1");
+        Check.due("divide(1, 2, 4)", () -> sums.divide(1, 2, 4), -1);
+        Check.tell(sums, 2, "z7+4*z1+4");
+        Check.due("divide(1, 2, 2)", () -> sums.divide(1, 2, 2), -1);
+        Check.equal("place 1", Check.spoken(sums, 1), "3z7-2z+1");
         Check.due("0 by the least", () -> sums.divide(0, 4, Integer.MIN_VALUE), 0);
         Check.due("0 by 0", () -> sums.divide(1, 4, 0), -1);
         Check.due("of(0, 0)", () -> sums.of(0, 0), 0);
@@ -191,7 +196,7 @@ final class ValueTest {
 
     private static void saying() {
         CharacterSums sums = Check.over(23, 1);
-        String[] texts = {"0", "1", "-1", "12", "z", "-z", "z2", "-z219", "z219+1", "z219-1", "-z219-z+1", "2z219-2z",
+        String[] texts = {"0", "1", "-1", "12", "z", "-z", "z2", "-z219", "z219+1", "z+1", "z219-1", "-z219-z+1", "2z219-2z",
             "1000000z100+z-1000000", "10z10-10z+10", "-1000000"};
         for (String text : texts) {
             Check.equal("say", told(sums, text), text);
