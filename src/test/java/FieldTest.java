@@ -1,14 +1,5 @@
 /** Promises 1, 2, 6 to 9 and 22: a new object, fields, their elements, logarithms, traces, norms. */
 final class FieldTest {
-    // p, k, q, N, D, GENERATOR, ELEMENT of MODULUS.
-    private static final int[][] KNOWN = {
-        {2, 1, 2, 2, 1, 1, 0}, {2, 2, 4, 6, 2, 2, 3}, {2, 3, 8, 14, 6, 2, 3}, {2, 4, 16, 30, 8, 2, 3},
-        {3, 1, 3, 6, 2, 2, 0}, {3, 2, 9, 24, 8, 4, 1}, {3, 3, 27, 78, 24, 3, 7}, {5, 1, 5, 20, 8, 2, 0},
-        {5, 2, 25, 120, 32, 6, 2}, {7, 1, 7, 42, 12, 3, 0}, {11, 1, 11, 110, 40, 2, 0},
-        {13, 1, 13, 156, 48, 2, 0}, {17, 1, 17, 272, 128, 3, 0}, {19, 1, 19, 342, 108, 2, 0},
-        {23, 1, 23, 506, 220, 5, 0}
-    };
-
     public static void main(String[] args) {
         aNewObject();
         fields();
@@ -42,7 +33,7 @@ final class FieldTest {
 
     private static void fields() {
         CharacterSums sums = new CharacterSums();
-        for (int[] known : KNOWN) {
+        for (int[] known : Fields.ALL) {
             Check.due("field " + known[2], () -> sums.field(known[0], known[1]), known[2]);
             for (int i = 0; i < 7; i++) {
                 int what = i;
@@ -114,7 +105,7 @@ final class FieldTest {
                 Check.noSuch("second " + x, () -> nine.element(way, 1, x));
             }
         }
-        for (int[] known : KNOWN) {
+        for (int[] known : Fields.ALL) {
             laws(Check.over(known[0], known[1]), known[2]);
         }
     }
@@ -139,7 +130,7 @@ final class FieldTest {
     }
 
     private static void logs() {
-        for (int[] known : KNOWN) {
+        for (int[] known : Fields.ALL) {
             CharacterSums sums = Check.over(known[0], known[1]);
             int power = 1;
             for (int n = 0; n < known[2] - 1; n++) {
