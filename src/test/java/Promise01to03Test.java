@@ -13,6 +13,7 @@ final class Promise01to03Test {
         Sentence.test(2, "q 27 at most", Promise01to03Test::mostElements);
         Sentence.test(2, "NONE (nothing changes): no such p, k.", Promise01to03Test::noSuchField);
         Sentence.test(2, "Another FIELD (all PLACES 0; the tape stays): q.", Promise01to03Test::anotherField);
+        Sentence.test(2, "Another FIELD", Promise01to03Test::fromEachToEach);
         Sentence.test(2, "(0 at first, and in a new FIELD)", Promise01to03Test::theSameFieldAgain);
         Sentence.test(2, "each with a VALUE (0 at first, and in a new FIELD)", Promise01to03Test::thereAndBack);
         Sentence.test(3, "Twenty bytes come behind the tape, of each number the highest first", Promise01to03Test::order);
@@ -154,6 +155,28 @@ final class Promise01to03Test {
         Check.due("what was SAID stays", () -> sums.said(0), '8');
         Check.due("what the tape holds stays", () -> sums.tell(1, 20), 2);
         Check.equal("the VALUE", Check.spoken(sums, 1), "-z3+7");
+    }
+
+    /** Nothing of the FIELD that was stays behind: another object that never had it answers the same. */
+    private static void fromEachToEach() {
+        for (int[] first : Fields.ALL) {
+            for (int[] second : Fields.ALL) {
+                CharacterSums one = Check.over(first[0], first[1]);
+                one.lifted(first[2] - 1, first[2] - 1, 2);
+                one.field(second[0], second[1]);
+                CharacterSums other = Check.over(second[0], second[1]);
+                int last = second[2] - 1;
+                String text = "g" + (last - 1) + "." + last + "*z" + (second[3] - 1) + "+k1." + last;
+                Check.due(text, () -> Check.tell(one, 7, text), Check.tell(other, 7, text));
+                Check.equal(text, Check.spoken(one, 7), Check.spoken(other, 7));
+                Check.due("log", () -> one.log(last), other.log(last));
+                Check.due("trace", () -> one.trace(last), other.trace(last));
+                Check.due("norm", () -> one.least(last, -1), other.least(last, -1));
+                Check.due("lifted", () -> one.lifted(last, last, 1), other.lifted(last, last, 1));
+                Check.due("moved", () -> one.make(6, 4, 7, second[3] - 1, 0), other.make(6, 4, 7, second[3] - 1, 0));
+                Check.due("of 5", () -> one.of(6, 5), other.of(6, 5));
+            }
+        }
     }
 
     private static void theSameFieldAgain() {

@@ -31,6 +31,7 @@ final class Promise12to16Test {
             Promise12to16Test::aheadOfGreat);
         Sentence.test(15, "(these change nothing)", Promise12to16Test::makingNothing);
         Sentence.test(16, "A PLACE has then the VALUE of PLACE i by a whole number v", Promise12to16Test::divided);
+        Sentence.test(16, "how many COEFFICIENTS aren't 0.", Promise12to16Test::dividedOverEach);
         Sentence.test(16, "NONE (nothing changes): no such PLACES, v is 0", Promise12to16Test::dividingNothing);
         Sentence.test(16, "some COEFFICIENT is no multiple of it.", Promise12to16Test::noMultiple);
         Check.finish();
@@ -498,6 +499,15 @@ final class Promise12to16Test {
         Check.due("PLACE 7 to PLACE 0", () -> sums.divide(0, 7, 5), 0);
     }
 
+    private static void dividedOverEach() {
+        Fields.each((sums, q) -> {
+            String last = sums.count(4) > 1 ? "+6*z" + (sums.count(4) - 1) : "";
+            dividedIs(sums, "4" + last, 2, Check.tell(sums, 5, "2" + last.replace('6', '3')) < 0 ? "" : Check.spoken(sums, 5));
+            dividedIs(sums, "4" + last, 4, last.isEmpty() ? "1" : "-1");
+            dividedIs(sums, "3" + last, 2, "-1");
+        });
+    }
+
     private static void dividingNothing() {
         Check.changeNothing(sums -> {
             for (int place : Fields.outside(8)) {
@@ -526,5 +536,8 @@ final class Promise12to16Test {
         dividedIs(sums, "1", 2, "-1");
         dividedIs(sums, "1", Integer.MAX_VALUE, "-1");
         dividedIs(sums, "-1", Integer.MIN_VALUE, "-1");
+        Check.tell(sums, 0, "2*z7+4*z1+4");
+        Check.due("the last is no multiple", () -> sums.divide(0, 0, 4), -1);
+        Check.equal("nor is any divided", Check.spoken(sums, 0), "2z7+4z+4");
     }
 }

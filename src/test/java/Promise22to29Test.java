@@ -17,6 +17,7 @@ final class Promise22to29Test {
         Sentence.test(25, "NoSuchElementException: the set has others, is below 0.", Promise22to29Test::wrongMarks);
         Sentence.test(26, "(bits; x isn't y) x less y is one and the same ELEMENT, for each ELEMENT but 0 as many",
             Promise22to29Test::differences);
+        Sentence.test(26, "Of how many pairs x, y of ELEMENTS of a set", Promise22to29Test::differencesOfAllSets);
         Sentence.test(26, "NONE: not as many for each.", Promise22to29Test::unevenDifferences);
         Sentence.test(26, "NoSuchElementException as for mark().", Promise22to29Test::wrongDifferences);
         Sentence.test(27, "how many x whose LOG is i MOD e there are", Promise22to29Test::cyclotomic);
@@ -234,6 +235,39 @@ final class Promise22to29Test {
         sums.mark(5);
         sums.differences(22);
         Check.due("F is not touched", () -> sums.alike(0), 2);
+    }
+
+    /** How often each difference comes; -1 if not all but 0 come as often. */
+    private static int counted(CharacterSums sums, int q, int set) {
+        int[] seen = new int[q];
+        for (int x = 0; x < q; x++) {
+            for (int y = 0; y < q; y++) {
+                boolean both = (set >> x & 1) == 1 && (set >> y & 1) == 1;
+                seen[sums.element(1, x, y)] += both && x != y ? 1 : 0;
+            }
+        }
+        for (int x = 1; x < q; x++) {
+            if (seen[x] != seen[1]) {
+                return -1;
+            }
+        }
+        return seen[1];
+    }
+
+    /** All sets of a small FIELD, all sets of two ELEMENTS and all but two of a larger one. */
+    private static void differencesOfAllSets() {
+        Fields.each((sums, q) -> {
+            for (int i = 0; i < 1 << q && q < 10; i++) {
+                int set = i;
+                Check.due("differences(" + set + ") of " + q, () -> sums.differences(set), counted(sums, q, set));
+            }
+            for (int i = 0; i < q * q && q > 10; i += 7) {
+                int two = 1 << i / q | 1 << i % q;
+                int others = (1 << q) - 1 - two;
+                Check.due("differences(" + two + ") of " + q, () -> sums.differences(two), counted(sums, q, two));
+                Check.due("differences(" + others + ") of " + q, () -> sums.differences(others), counted(sums, q, others));
+            }
+        });
     }
 
     private static void unevenDifferences() {
